@@ -579,20 +579,15 @@ public final class MeanMan {
                 behind++;
             }
             thing = behind > begin ? WORD : END;
-            if (thing == END && begin < length) {
-                readNumberOrSign();
-            }
-        }
-
-        private void readNumberOrSign() {
             value = 0;
-            while (behind < length && bytes[behind] >= '0' && bytes[behind] <= '9') {
+            while (thing != WORD && behind < length && bytes[behind] >= '0' && bytes[behind] <= '9') {
+                thing = NUMBER;
                 // A number of too many digits is NONE, which no bounds let in.
                 value = behind - begin < MOST_DIGITS ? 10 * value + bytes[behind] - '0' : NONE;
                 behind++;
             }
-            thing = behind > begin ? NUMBER : SIGN;
-            if (thing == SIGN) {
+            if (thing == END && behind < length) {
+                thing = SIGN;
                 behind++;
             }
         }
@@ -886,9 +881,11 @@ public final class MeanMan {
             boolean not = tape.isWord("not");
             tape.advance();
             if (not) {
-                boolean right = readAtom(depth);
+                if (!readAtom(depth)) {
+                    return false;
+                }
                 told.add(Law.NOT);
-                return right;
+                return true;
             }
             if (!readCondition(depth) || !tape.isSign(')')) {
                 return false;

@@ -224,6 +224,19 @@ public final class PromisesTest {
         wrongHall("number 0 4 0", 9);
         wrongHall("number 0 0 100", 11);
         wrongHall("number 0 0", 10);
+        wrongHall("number 0", 8);
+        wrongHall("number", 6);
+        wrongHall("number;strike 1", 6);
+        wrongHall("stubborn", 8);
+        wrongHall("stubborn;strike 1", 8);
+        wrongHall("rule", 4);
+        wrongHall("rule 0", 6);
+        wrongHall("rule 0;strike 1", 6);
+        wrongHall("strike", 6);
+        wrongHall("strike;strike 1", 6);
+        wrongHall("man", 3);
+        wrongHall("man;strike 1", 3);
+        wrongHall("manz 1 2 3 4", 0);
         wrongHall("strike 1;".repeat(14) + "strike 1", 126);
         wrongHall("strike 1;".repeat(14), 126);
         wrongHall("strike 1;".repeat(14) + " ;", 127);
@@ -265,6 +278,14 @@ public final class PromisesTest {
         wrongLaw("down 5 if or above", 10);
         wrongLaw("down 5 if not", 13);
         wrongLaw("down 5 above", 7);
+        wrongLaw("down 5 if 1<", 12);
+        wrongLaw("down 5 if 1<;up 1", 12);
+        wrongLaw("down 5 if (1>)", 13);
+        wrongLaw("down 5 if not;up 1", 13);
+        wrongLaw("down 5 if ()", 11);
+        wrongLaw("down;up 1", 4);
+        wrongLaw("down 5 if;up 1", 9);
+        wrongLaw("upz 1", 0);
         wrongLaw("down 5 if mine=his", 14);
         wrongLaw("sideways 5", 0);
         wrongLaw("up 1;".repeat(12) + "up 1", 60);
@@ -493,6 +514,14 @@ public final class PromisesTest {
         due(19, "by 30", saw.round(), 30);
         MeanMan longSaw = law(row(0, 0), "up 1 if mine<30;down 20 if mine>29;down 10 if mine>29");
         due(19, "by 31", longSaw.round(), -1);
+        MeanMan hidden = law(row(1, 1, 5, 9), "up 1 if who+kind<1 and mine<2;down 1 if who+kind<1 and mine>1");
+        due(19, "people are looked at, not the man alone", hidden.round(), 2);
+        due(18, "people are looked at, not the man alone", hidden.settles(), -1);
+        hall(hidden, "strike 100");
+        due(19, "no draws", hidden.round(), 2);
+        MeanMan struck = hall("person 7 0 0 0 weight 1;strike 100");
+        due(18, "no draws", struck.settles(), 1);
+        due(19, "no draws, by 1", struck.round(), 1);
     }
 
     private static void fewestAndRules() {
@@ -579,6 +608,9 @@ public final class PromisesTest {
         due(28, "none", y.before(0, 0, 99, true), -1);
         due(28, "how many of none", y.before(0, 0, 99, false), 0);
         due(28, "fewer at the end", row(0, 0, 1).before(0, 0, 0, false), 1);
+        due(28, "one alone at the other end", row(0, 5).before(0, 0, 99, true), 99);
+        due(28, "how many there", row(0, 5).before(0, 0, 99, false), 1);
+        due(28, "one alone at 0", row(0, 5).before(0, 0, 0, true), 0);
         dueThrow(28, "no person", INDEX, () -> y.before(4, 0, 100, false));
         dueThrow(28, "no kind", INDEX, () -> y.before(0, 4, 100, false));
         dueThrow(28, "100", ARGUMENT, () -> y.before(0, 0, 100, false));
@@ -840,6 +872,11 @@ public final class PromisesTest {
         x.leave(0);
         x.back();
         due(48, "another in its place", x.count(0), 3);
+        MeanMan lawless = new MeanMan();
+        lawless.image();
+        law(lawless, "up 1");
+        lawless.back();
+        due(49, "no law was told then", lawless.count(2), -1);
         x.tell(0, 0, 1);
         x.image();
         x.undo();
