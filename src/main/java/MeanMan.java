@@ -919,7 +919,7 @@ public final class MeanMan {
         static final int MOST_LINES = 12;
         static final int UP = 0;
         static final int DOWN = 1;
-        // Signs below WHO are numbers; those below NOT are put on the stack, those above join two.
+        // Signs below WHO are numbers; all below NOT are put on the stack, all above NOT join two.
         static final int WHO = 1000;
         static final int KIND = 1001;
         static final int MINE = 1002;
@@ -1450,7 +1450,7 @@ public final class MeanMan {
             return sizes;
         }
 
-        /** The first number of what a size fits may always be the least of them. */
+        /** Only sizes that reach down to a number are tried: any other may go up to one and lose nobody. */
         int mostFitted(int e, int sizes) {
             for (int k = 1; k <= sizes && k <= MOST_SIZES; k++) {
                 fitted[k][size] = 0;
