@@ -11,7 +11,7 @@ import java.util.TreeSet;
 import java.util.regex.Matcher;
 import java.util.regex.Pattern;
 
-/** The document once more, by trying all there is wherever that ends: what ModelTest compares with. */
+/** The document once more, by plain trying where that is short enough: what ModelTest compares with. */
 final class Model {
     static final class Person {
         int[] n;
