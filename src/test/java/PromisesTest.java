@@ -1,29 +1,10 @@
-import java.nio.charset.StandardCharsets;
-import java.util.Arrays;
-
 /** For each promise of the document what it says, at its edges and with wrong inputs. */
-public final class PromisesTest {
-    private static final String INDEX = "IndexOutOfBoundsException";
-    private static final String ARGUMENT = "IllegalArgumentException";
-    private static final String STATE = "IllegalStateException";
-    private static final String ELEMENT = "NoSuchElementException";
-    private static final String UNSUPPORTED = "UnsupportedOperationException";
+public final class PromisesTest extends Asker {
     private static final String FOUR =
         "person 10 20 30 40 weight 1;person 20 20 50 0 weight 2;person 60 20 70 99 weight 1;person 60 0 10 0 weight 5";
 
-    private interface Call {
-        void make();
-    }
-
-    private static int wrong = 0;
-    private static int asked = 0;
-
     private static void due(int promise, String what, long got, long want) {
-        asked++;
-        if (got != want) {
-            wrong++;
-            System.out.println("promise " + promise + ": " + what + " answered " + got + ", due is " + want);
-        }
+        due("promise " + promise + ": " + what, got, want);
     }
 
     private static void due(int promise, String what, boolean got, boolean want) {
@@ -31,56 +12,7 @@ public final class PromisesTest {
     }
 
     private static void dueThrow(int promise, String what, String want, Call call) {
-        String got = "nothing";
-        try {
-            call.make();
-        } catch (RuntimeException e) {
-            got = e.getClass().getSimpleName();
-        }
-        asked++;
-        if (!got.equals(want)) {
-            wrong++;
-            System.out.println("promise " + promise + ": " + what + " threw " + got + ", due is " + want);
-        }
-    }
-
-    private static void feed(MeanMan x, String text) {
-        byte[] bytes = text.getBytes(StandardCharsets.ISO_8859_1);
-        byte[] whole = Arrays.copyOf(bytes, (bytes.length + 19) / 20 * 20);
-        x.end(0);
-        for (int i = 0; i < whole.length; i += 20) {
-            int[] n = new int[5];
-            for (int j = 0; j < 20; j++) {
-                n[j / 4] = n[j / 4] << 8 | whole[i + j] & 255;
-            }
-            x.feed(n[0], n[1], n[2], n[3], n[4]);
-        }
-        x.end(bytes.length);
-    }
-
-    private static MeanMan hall(String text) {
-        return hall(new MeanMan(), text);
-    }
-
-    private static MeanMan hall(MeanMan x, String text) {
-        feed(x, text);
-        x.hall();
-        return x;
-    }
-
-    private static MeanMan law(MeanMan x, String text) {
-        feed(x, text);
-        x.law();
-        return x;
-    }
-
-    /** People with these numbers in kind 0, weight 1 each, and a rule of kind 0. */
-    private static MeanMan row(int rule, int... numbers) {
-        StringBuilder text = new StringBuilder("rule 0 " + rule);
-        for (int v : numbers) {
-            text.append(";person ").append(v).append(" 0 0 0 weight 1");
-        }
-        return hall(text.toString());
+        dueThrow("promise " + promise + ": " + what, want, call);
     }
 
     private static void wrongHall(String text, int at) {
@@ -923,9 +855,6 @@ public final class PromisesTest {
         undoing();
         images();
         counts();
-        System.out.println(asked + " answers asked, " + wrong + " wrong");
-        if (wrong != 0) {
-            System.exit(1);
-        }
+        finish();
     }
 }
