@@ -29,7 +29,7 @@ final class Document {
     }
 
     private int begin(String place) {
-        String heading = place.equals("Terms") ? "## Terms " : "## " + place + ":";
+        String heading = "## " + place + (place.startsWith("Promise") ? ":" : " ");
         return Math.max(0, text.indexOf(heading));
     }
 

@@ -39,11 +39,12 @@ final class PromiseBounds extends Bounds {
         is("a row", x.log(0, 0), -1);
         is("seed", x.seed(1), 1);
         dueThrow("a person", INDEX, () -> x.number(0, 0));
-        MeanMan long1 = new MeanMan();
+        sentence("What it is", "An object is used for at most 512 calls after it has been made");
+        MeanMan old = new MeanMan();
         for (int i = 1; i < 512; i++) {
-            long1.seed(i);
+            is("call " + i, old.seed(i), i == 1 ? 1 : i - 1);
         }
-        is("the 512th call", long1.seed(0), 511);
+        is("the 512th call", old.seed(0), 511);
     }
 
     private static void tape() {
@@ -634,6 +635,13 @@ final class PromiseBounds extends Bounds {
         same.image();
         same.back();
         same("all", Whole.of(whole).subList(1, 100), Whole.of(same).subList(1, 100));
+        MeanMan lawful = law(row(0, 5), "up 1");
+        lawful.image();
+        law(lawful, "up 2;up 3");
+        is("the law of then", lawful.goes(0, 0), 10);
+        lawful.back();
+        is("the law of the image", lawful.goes(0, 0), 6);
+        is("its lines", lawful.count(2), 1);
         MeanMan twice = busy();
         twice.back();
         twice.days(60);
@@ -679,6 +687,65 @@ final class PromiseBounds extends Bounds {
         for (int what : new int[] {-1, 13, 14, LEAST_INT, MOST_INT}) {
             is("count(" + what + ")", busy().count(what), -1);
         }
+    }
+
+    /** Three were asked for everything, and then all left. */
+    private static MeanMan left() {
+        MeanMan x = hall("person 99 98 97 96 weight 9;person 95 94 93 92 weight 8;person 91 98 89 88 weight 7;man 99 99 99 99");
+        for (int kind = 0; kind < 4; kind++) {
+            x.middle(kind, 4);
+            x.rules(kind, 98);
+            x.sizes(kind, 0);
+            x.fits(kind, 0, 4);
+            x.samples(kind, 2, 9, false);
+            x.pull(0, 1, kind);
+            x.range(kind);
+        }
+        x.leave(2);
+        x.leave(0);
+        x.leave(0);
+        return x;
+    }
+
+    private static void whenAllLeft() {
+        MeanMan x = left();
+        sentence("Promise 15", "how many there are");
+        is("nobody", x.count(0), 0);
+        sentence("Promise 10", "there are no PEOPLE");
+        refused("middle", PromiseBounds::left, STATE, (y, n) -> y.middle(n, 0), 0);
+        sentence("Promise 20", "there are no PEOPLE");
+        refused("fewest", PromiseBounds::left, STATE, (y, n) -> y.fewest(n, 98), 0);
+        sentence("Promise 21", "(0 without PEOPLE)");
+        is("rules", x.rules(0, 99) + x.rules(0, 0) + x.rules(0, 98), 0);
+        sentence("Promise 27", "0 without PEOPLE");
+        is("near", x.near(0, false) + x.near(0, true), 0);
+        sentence("Promise 29", "(0 without PEOPLE)");
+        is("sizes", x.sizes(0, 0) + x.sizes(0, 20), 0);
+        sentence("Promise 30", "SIZES: the most PEOPLE");
+        is("fits", x.fits(0, 0, 1) + x.fits(0, 20, 4), 0);
+        sentence("Promise 31", "SHOE");
+        is("shoe", x.shoe(0, 0) + x.shoe(0, 20), 0);
+        sentence("Promise 34", "NONE");
+        is("nearest", x.nearest(), -1);
+        sentence("Promise 37", "NONE");
+        is("village", x.village(1), -1);
+        sentence("Terms", "(not so without PEOPLE)");
+        is("halves", x.halves(0), false);
+        sentence("Terms", "(0 without PEOPLE)");
+        is("range", x.range(0), 0);
+        sentence("Terms", "none there are, if S is more than PEOPLE");
+        is("samples", x.samples(0, 1, 99, false) + x.samples(0, 1, 99, true), 0);
+        sentence("Terms", "Sets are bits; of none they count for nothing");
+        is("gainers", x.gainers(0), 0);
+        is("hates", x.hates(0), 0);
+        is("stubborn", x.count(9), 0);
+        is("pairs of twins", x.twins(), 0);
+        is("votes", x.majority(0, 50), 0);
+        sentence("Terms", "(as he was without PEOPLE)");
+        is("trial", x.trial(1, 60), 99);
+        is("span", x.span(1, 60, true), 99);
+        is("settles", x.settles(), 0);
+        is("round", x.round(), 1);
     }
 
     private static void exceptions() {
@@ -736,6 +803,7 @@ final class PromiseBounds extends Bounds {
         undoing();
         images();
         counts();
+        whenAllLeft();
         exceptions();
     }
 }

@@ -17,6 +17,10 @@ final class QuestionBounds extends Bounds {
             is("one alone to 99 by rule " + rule, row(rule, 50).fewest(0, 99), 1);
             is("one alone, as it is, by rule " + rule, row(rule, 50).fewest(0, 50), 0);
         }
+        int[] middles = {40, 20, 60, 49, 60, 40};
+        for (int rule = 0; rule < 6; rule++) {
+            is("nobody must of eight by rule " + rule, row(rule, 60, 0, 20, 98, 60, 20, 60, 2).fewest(0, middles[rule]), 0);
+        }
         sentence("Terms", "so that the MIDDLE by the RULE of that KIND is V: of several sets the least as bits; none");
         is("all of two could, the first does", row(0, 50, 50).fewest(0, 51), 1);
         is("one tells 99: 12 at most", row(0, alike(0, 8)).fewest(0, 12), 1);
@@ -31,6 +35,8 @@ final class QuestionBounds extends Bounds {
         is("the one who is the greatest", row(3, 40, 80, 60).fewest(0, 39), 2);
         is("by that one as far as it goes", row(3, 40, 80, 60).fewest(0, 30), 2);
         is("and by two beyond it", row(3, 40, 80, 60).fewest(0, 29), 6);
+        is("by one as far up as it goes", row(3, 40, 80, 60).fewest(0, 79), 1);
+        is("and by two beyond that", row(3, 40, 80, 60).fewest(0, 80), 5);
         is("of a tie the least number wins by rule 4", row(4, 5, 5, 9, 9).fewest(0, 9), 1);
         is("and a lesser one needs a tie alone", row(4, 5, 5, 9).fewest(0, 4), 1);
         is("a light one by rule 5", weighed(0, 1, 0, 9).fewest(0, 9), 1);
@@ -67,6 +73,10 @@ final class QuestionBounds extends Bounds {
         is("a light one, greatest", weighed(50, 9, 50, 1).moves(1, 0, true), 54);
         is("between the ends too, least", row(4, 3, 8, 9).moves(1, 0, false), 0);
         is("between the ends too, greatest", row(4, 3, 8, 9).moves(1, 0, true), 9);
+        is("greatest by 1 alone", row(4, 0, 1, 50).moves(2, 0, true), 1);
+        is("greatest by 99 alone", row(4, 0, 99, 50).moves(2, 0, true), 99);
+        is("least by 0 alone", row(4, 0, 99, 99, 50).moves(3, 0, false), 0);
+        is("least by 98 alone", row(4, 98, 99, 99, 50).moves(3, 0, false), 98);
         sentence("Terms", "SHAM of a PERSON in a KIND: a NUMBER that, told in place of its own, brings the MIDDLE nearer to its own one than it is");
         is("it is there", row(0, 10, 11).sham(0, 0), -1);
         is("it is 1 from it", row(0, 10, 11).sham(1, 0), 12);
@@ -80,6 +90,8 @@ final class QuestionBounds extends Bounds {
         is("up to 98, by which it is as by 99", row(0, 0, 97).sham(1, 0), 98);
         is("not to the end", row(0, 40, 50).sham(0, 0), 30);
         is("of two the lesser", row(0, 50, 40).sham(0, 0), 60);
+        is("by 99 alone", row(4, 98, 0, 99).sham(0, 0), 99);
+        is("by 0 alone", row(4, 1, 50, 50, 0).sham(0, 0), 0);
         is("by the half", row(3, 40, 50, 60).sham(0, 0), 20);
         is("by the heavy", weighed(60, 9, 50, 1).sham(0, 0), 62);
         sentence("Terms", "HONEST: RULES by which nobody could SHAM in a KIND now, as bits");
@@ -107,6 +119,8 @@ final class QuestionBounds extends Bounds {
         sentence("Terms", "NEAR: how many NUMBERS are at the MIDDLE by RULE 0, how many at that and 1");
         is("all eight", row(0, alike(99, 8)).near(0, false), 8);
         is("none at 100", row(0, alike(99, 8)).near(0, true), 0);
+        is("one", row(0, 99).near(0, false), 1);
+        is("one, and none at one more", row(0, 98).near(0, true), 0);
         is("at 0", row(0, 0, 1).near(0, false), 1);
         is("at 1", row(0, 0, 1).near(0, true), 1);
         is("not at it", row(0, 0, 2, 4, 6).near(0, false), 0);
@@ -155,6 +169,17 @@ final class QuestionBounds extends Bounds {
             is(k + " of eight by 5", row(0, 0, 10, 20, 30, 40, 50, 60, 70).fits(0, 5, k), 2 * k);
             is(k + " of eight alike", row(0, alike(99, 8)).fits(0, 0, k), 8);
         }
+        is("the most, though behind", row(0, 0, 50, 50).fits(0, 0, 1), 2);
+        is("the most, though ahead", row(0, 50, 99, 50).fits(0, 0, 1), 2);
+        is("not the first of them", row(0, 0, 30, 31, 60, 61, 90, 91, 92).fits(0, 1, 3), 7);
+        is("all but one of eight", row(0, 0, 20, 41, 82, 83, 84, 85, 86).fits(0, 20, 2), 7);
+        MeanMan fewer = row(0, 1, 1, 1, 1, 1, 1, 30, 60);
+        is("of eight", fewer.fits(0, 0, 4), 8);
+        for (int still = 7; still >= 0; still--) {
+            fewer.leave(0);
+            is("of " + still + " that are left", fewer.fits(0, 0, 4), still);
+            is("of " + still + " by one size", fewer.fits(0, 0, 1), Math.max(still - 2, Math.min(still, 1)));
+        }
         sentence("Terms", "SHOE: the least size (0 to 99) that fits the most");
         is("3 by 5: none below 0", row(0, 3).shoe(0, 5), 0);
         is("20 by 20", row(0, 20).shoe(0, 20), 0);
@@ -173,6 +198,8 @@ final class QuestionBounds extends Bounds {
         is("99 and 0", row(0, 99, 0).pull(0, 1, 0), 195);
         is("both at 0", row(0, 0, 0).pull(0, 1, 0), 27);
         is("both at 99", row(0, 99, 99).pull(0, 1, 0), 325);
+        is("two by the lesser: own and own, own and 99, 0 and 0", row(1, 10, 50).pull(0, 1, 0), 21);
+        is("and the other way round", row(1, 10, 50).pull(1, 0, 0), 81);
         sentence("Terms", "each would have the MIDDLE as near as can be to its own: RESTS, as bits (3 times what the one tells and what the other one tells)");
         is("the one down, the other one up", row(0, 10, 20, 60, 60).pull(0, 2, 0), 1 << 5);
         is("the one up, the other one down", row(0, 10, 20, 60, 60).pull(2, 0, 0), 1 << 7);
@@ -223,6 +250,11 @@ final class QuestionBounds extends Bounds {
         is("by 396", far.hates(396), 0);
         is("by 397", far.hates(397), 0);
         is("by 400", far.hates(400), 0);
+        MeanMan amid = hall("person 50 50 50 50 weight 1;person 49 50 50 51 weight 1;person 51 49 51 49 weight 1;man 50 50 50 50");
+        is("on either side by 0", amid.hates(0), 6);
+        is("on either side by 1", amid.hates(1), 6);
+        is("on either side by 2", amid.hates(2), 4);
+        is("on either side by 4", amid.hates(4), 0);
         is("nobody", new MeanMan().hates(0), 0);
         is("all eight", row(0, alike(1, 8)).hates(0), ALL);
         sentence("Terms", "TWINS: pairs of PEOPLE with the same four NUMBERS: how many");
@@ -266,6 +298,7 @@ final class QuestionBounds extends Bounds {
         is("1 less", row(0, 49, 50).rank(0, 0), 1);
         is("as much", row(0, 50, 50).rank(0, 0), 0);
         is("1 more", row(0, 51, 50).rank(0, 0), 0);
+        is("less than one ahead", row(0, 51, 50).rank(1, 0), 1);
         sentence("Terms", "RANGE of a KIND: the greatest NUMBER less the least (0 without PEOPLE)");
         is("nobody", new MeanMan().range(0), 0);
         is("one", row(0, 99).range(0), 0);

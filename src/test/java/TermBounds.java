@@ -333,6 +333,16 @@ final class TermBounds extends Bounds {
         is("the man's last change on the 60th", law(row(0, 0), "up 1 if day < 59").settles(), 60);
         is("the man's last change behind it", law(row(0, 0), "up 1 if day < 60").settles(), -1);
         is("still for a while is settled", goesAlone("up 1 if day > 5").settles(), 0);
+        is("one number of all", goesAlone("up 1 if who + kind < 1 and day < 9").settles(), 9);
+        MeanMan later = goesAlone("up 1 if day < 20");
+        later.days(5);
+        is("from now on", later.settles(), 15);
+        later.days(15);
+        is("from there on", later.settles(), 0);
+        is("without draws", hall("person 7 7 7 7 weight 1;strike 100").settles(), 1);
+    }
+
+    private static void goingRound() {
         sentence("Terms", "ROUND: the least P (1 to 30) by which all NUMBERS of PEOPLE and of THE MAN 60 DAYS AHEAD are as P DAYS before that");
         is("nobody", new MeanMan().round(), 1);
         is("still", goesAlone("up 0").round(), 1);
@@ -346,6 +356,13 @@ final class TermBounds extends Bounds {
         is("31 before", goesAlone("up 1 if day < 45;down 1 if day > 43 and who < 1").round(), -1);
         is("the man alone is another", law(row(0, 0), "up 1 if day < 59").round(), -1);
         is("all are as on the day before", law(row(0, 0), "up 1 if day < 58").round(), 1);
+        is("one number of all", goesAlone("up 1 if who + kind < 1 and mine < 1;down 1 if who + kind < 1 and mine > 0").round(), 2);
+        is("the last number of all", law(row(1, 0, 0, 0), "up 1 if who + kind > 4 and mine < 1;down 1 if who + kind > 4 and mine > 0").round(), 2);
+        MeanMan later = law(row(0, 0), "up 1 if day < 59");
+        later.days(1);
+        is("from now on", later.round(), 1);
+        is("without draws", hall("person 7 7 7 7 weight 1;strike 100").round(), 1);
+        is("without draws, by 2", hall(goesAlone("up 1 if mine < 1;down 1 if mine > 0 and who < 1"), "strike 100").round(), 2);
         sentence("Terms", "(DAYS of THE LAW not looked at)");
         is("DAY differs", goesAlone("up 0 if day > 59").round(), 1);
     }
@@ -358,5 +375,6 @@ final class TermBounds extends Bounds {
         manyDays();
         actsAndLog();
         settling();
+        goingRound();
     }
 }

@@ -230,6 +230,14 @@ final class TextBounds extends Bounds {
         wrongLaw("up 1 if 1 < 2 +", 15);
         wrongLaw("up 1 if whose < 2", 8);
         wrongLaw("up 1 if weight < 2", 8);
+        MeanMan eight = law(hall(lines(PERSON, 8)), "up 1 if who > 6;up 2 if who < 1;up 4 if kind > 2;up 8 if kind < 1;up 16 if day > 0");
+        is("who 0, kind 0", eight.goes(0, 0), 1 + 2 + 8);
+        is("who 0, kind 3", eight.goes(0, 3), 4 + 2 + 4);
+        is("who 1, kind 1", eight.goes(1, 1), 2);
+        is("who 6, kind 2", eight.goes(6, 2), 3);
+        is("who 7, kind 3", eight.goes(7, 3), 4 + 1 + 4);
+        eight.days(1);
+        is("day 1", eight.goes(1, 1), 2 + 16);
         is("the longest sum", goes(50, 40, "up 1 if 193<" + "1+".repeat(193) + "00"), 50);
         is("the longest sum, one more", goes(50, 40, "up 1 if 193<" + "1+".repeat(193) + "01"), 51);
         is("the greatest sum", goes(50, 40, "up 1 if 999<" + "999+".repeat(96) + "9"), 51);
@@ -320,6 +328,10 @@ final class TextBounds extends Bounds {
         wrongHall("person 1 2 3 4weightx5", 14);
         wrongHall("strike 7strike 8", 8);
         wrongHall("z".repeat(400), 0);
+        wrongHall(" ".repeat(395) + "strik", 395);
+        wrongHall(" ".repeat(394) + "strike", 400);
+        wrongHall(" ".repeat(399) + "s", 399);
+        wrongLaw("up 1 if " + " ".repeat(388) + "abov", 396);
         rightLaw("up1if(not above)and(below)or(1<2)", 1);
         wrongLaw("up 1 ifabove", 5);
         wrongLaw("up 1 if notabove", 8);
@@ -331,6 +343,9 @@ final class TextBounds extends Bounds {
         rightLaw("  up  1  if  (  not  mine  +  1  <  his  or  day  >  3  )  and  below  ;  down  2  ", 2);
         is("the longest", rightHall(" ".repeat(392) + "strike 7").count(4), 7);
         is("the longest behind", rightHall("strike 7" + " ".repeat(392)).count(4), 7);
+        is("a number of three digits at the end", rightHall(" ".repeat(390) + "strike 100").count(4), 100);
+        wrongHall(" ".repeat(390) + "strike 101", 397);
+        rightLaw("up 1 if " + " ".repeat(387) + "above", 1);
         for (int sign : new int[] {0, 9, 10, 13, 31, 33, 127, 128, 160, 224, 255}) {
             wrongHall("strike" + (char) sign + "7", 6);
             wrongHall((char) sign + "strike 7", 0);
@@ -338,6 +353,14 @@ final class TextBounds extends Bounds {
             wrongLaw("up 1" + (char) sign, 4);
         }
         wrongHall("strike 1 0", 9);
+        MeanMan cut = new MeanMan();
+        feed(cut, "strike 77;strike 88");
+        cut.end(8);
+        is("what was cut off is not read", cut.hall() * 100 + cut.count(4), 107);
+        feed(cut, "strike 99");
+        cut.end(5);
+        dueThrow("a word that was cut", ARGUMENT, () -> cut.hall());
+        is("a word that was cut", cut.fault(), 0);
         sentence("Terms", "A text that is empty, or blanks alone, has no LINE");
         for (int blanks : new int[] {0, 1, 2, 399, 400}) {
             is("people of " + blanks + " blanks", rightHall(busy(), " ".repeat(blanks)).count(0), 3);
@@ -355,9 +378,13 @@ final class TextBounds extends Bounds {
             String brackets = "up 1 if " + "(".repeat(deep) + "above" + ")".repeat(deep);
             is(deep + " (", goes(50, 40, brackets), 51);
             is(deep + " not", goes(50, 40, "up 1 if " + "not ".repeat(deep) + "above"), deep % 2 == 0 ? 51 : 50);
+            is(deep + " not of what is not", goes(50, 40, "up 1 if " + "not ".repeat(deep) + "below"), deep % 2 == 0 ? 50 : 51);
         }
         wrongLaw("up 1 if (((((((above)))))))", 14);
         wrongLaw("up 1 if not not not not not not not above", 32);
+        String waiting = "up 1 if " + "below or above and (".repeat(6) + "below or above and 1+1<1+@" + ")".repeat(6);
+        is("as much waits as can, and holds", goes(50, 40, waiting.replace("@", "2")), 51);
+        is("as much waits as can, and does not hold", goes(50, 40, waiting.replace("@", "1")), 50);
         rightLaw("up 1 if not(not(not(above)))", 1);
         wrongLaw("up 1 if not(not(not(not above)))", 20);
         wrongLaw("up 1 if not(not(not((above))))", 20);
