@@ -856,8 +856,9 @@ public final class MeanMan {
         }
 
         private boolean readAtom(int depth) {
-            if (tape.isSign('(') || tape.isWord("not")) {
-                return depth < DEEPEST && readInner(depth + 1);
+            boolean not = tape.isWord("not");
+            if (not || tape.isSign('(')) {
+                return depth < DEEPEST && readInner(depth + 1, not);
             }
             int side = tape.wordAmong("above below");
             if (side != NONE) {
@@ -877,8 +878,7 @@ public final class MeanMan {
             return true;
         }
 
-        private boolean readInner(int depth) {
-            boolean not = tape.isWord("not");
+        private boolean readInner(int depth, boolean not) {
             tape.advance();
             if (not) {
                 if (!readAtom(depth)) {
