@@ -1,8 +1,14 @@
+import java.io.IOException;
 import java.lang.reflect.Constructor;
 import java.lang.reflect.Field;
 import java.lang.reflect.Method;
 import java.lang.reflect.Modifier;
+import java.nio.file.Files;
+import java.nio.file.Path;
+import java.util.List;
 import java.util.TreeSet;
+import java.util.regex.Matcher;
+import java.util.regex.Pattern;
 
 /** The class shows the document's face and nothing else, and keeps what can be seen of it from outside. */
 public final class FaceTest {
@@ -83,6 +89,25 @@ public final class FaceTest {
         need(Modifier.isFinal(MeanMan.class.getModifiers()), "the class is final");
     }
 
+    /** The list above is the document's, which may have been written anew. */
+    private static void document() throws IOException {
+        Path place = Path.of("../shared/DOC.md");
+        if (!Files.isRegularFile(place)) {
+            System.out.println("there is no document here, so the face was not looked up");
+            return;
+        }
+        Pattern shown = Pattern.compile("(?m)^    public (\\w+ \\w+)\\(([^)]*)\\)(?: throws ([^;]*))?;$");
+        Matcher m = shown.matcher(Files.readString(place));
+        TreeSet<String> due = new TreeSet<>();
+        while (m.find()) {
+            String taken = m.group(2).replaceAll("(\\w+) \\w+", "$1").replace(" ", "");
+            String thrown = m.group(3) == null ? "" : " " + m.group(3).replace(",", "");
+            due.add(m.group(1) + "(" + taken + ")" + thrown);
+        }
+        need(due.equals(new TreeSet<>(List.of(FACE))), "the list of this test is the document's face, but " + due);
+        need(MeanMan.NONE == -1, "NONE is -1");
+    }
+
     private static void inside() {
         Class<?>[] inside = MeanMan.class.getDeclaredClasses();
         need(inside.length <= 12, "there are at most twelve classes inside");
@@ -99,7 +124,8 @@ public final class FaceTest {
         }
     }
 
-    public static void main(String[] args) {
+    public static void main(String[] args) throws IOException {
+        document();
         face();
         inside();
         System.out.println(wrong == 0 ? "the face is the document's" : wrong + " things are not as the document has them");
